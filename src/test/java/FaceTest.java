@@ -56,6 +56,12 @@ public final class FaceTest {
                 Check.due(m + " bears a public one's name", publicNames.contains(m.getName()) ? 1 : 0, 0);
             }
         }
+        for (Class<?> inside : EvenLines.class.getDeclaredClasses()) {
+            Check.due(inside + " is static", inside.getModifiers() & Modifier.STATIC, Modifier.STATIC);
+            for (Method m : inside.getDeclaredMethods()) {
+                Check.due(m + " bears a public one's name", publicNames.contains(m.getName()) ? 1 : 0, 0);
+            }
+        }
     }
 
     private static void fieldsAndConstructors() {

@@ -12,6 +12,7 @@ public final class TablesTest {
         odd();
         together();
         regular();
+        allTablesTo(6);
         Check.end();
     }
 
@@ -150,5 +151,26 @@ public final class TablesTest {
         Check.due("with two odd triples each", x.together(2, 5), 2);
         x.sign(0, 3, -1);
         Check.due("one sign changed", x.regular(), 0);
+    }
+
+    private static void allTablesTo(int most) {
+        for (int n = 2; n <= most; n++) {
+            for (int code = 0; code < 1 << n * (n - 1) / 2; code++) {
+                EvenLines x = made(n);
+                Model m = new Model();
+                m.lines(n);
+                for (int i = 0, bit = 0; i < n; i++) {
+                    for (int j = 0; j < i; j++, bit++) {
+                        int v = (code >> bit & 1) == 0 ? 1 : -1;
+                        x.sign(i, j, v);
+                        m.sign(i, j, v);
+                    }
+                }
+                String of = " of " + n + " lines, table " + code;
+                Check.due("odd" + of, x.odd(), m.odd());
+                Check.due("together" + of, x.together(0, n - 1), m.together(0, n - 1));
+                Check.due("regular" + of, x.regular(), m.regular());
+            }
+        }
     }
 }
