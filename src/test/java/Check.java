@@ -12,6 +12,11 @@ final class Check {
         }
     }
 
+    static void fail(String text) {
+        wrong++;
+        System.out.println(text);
+    }
+
     static void end() {
         if (wrong != 0) {
             System.out.println(wrong + " answers are not as due");
