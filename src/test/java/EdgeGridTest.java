@@ -4,7 +4,7 @@ import java.lang.reflect.Modifier;
 import java.util.Arrays;
 
 /**
- * All promises: every call with every combination of numbers at and beside the document's limits, the least and the
+ * All promises: every call with every combination of some numbers at and beside the limits, the least and the
  * greatest int among them, on the class and on the model: the answer and all that it leaves.
  */
 public final class EdgeGridTest {
