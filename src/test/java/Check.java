@@ -17,6 +17,10 @@ final class Check {
         System.out.println(text);
     }
 
+    static int wrong() {
+        return wrong;
+    }
+
     static void end() {
         if (wrong != 0) {
             System.out.println(wrong + " answers are not as due");

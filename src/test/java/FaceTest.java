@@ -9,7 +9,7 @@ import java.util.TreeSet;
 import java.util.regex.Matcher;
 import java.util.regex.Pattern;
 
-/** The public face, neither more nor less, and the words that LANGUAGE.md leaves out. */
+/** The public face, neither more nor less, its headings, and the words that LANGUAGE.md leaves out. */
 public final class FaceTest {
     private static final String[] FACE = {
         "int lines(int)", "int sign(int,int,int)", "int at(int,int)", "int turn(int)", "int change(int,int)", "int odd()",
@@ -22,11 +22,22 @@ public final class FaceTest {
     private static final String[] LEFT_OUT = {"\\bthrows?\\b", "\\btry\\b", "\\bcatch\\b", "\\bsynchronized\\b", "\\bassert\\b",
         "\\bimport\\b", "\\bpackage\\b", "\\bObject\\b", "->", "::", "Exact\\b", "\\bprotected\\b"};
 
+    private static final String[][] HEADINGS = {
+        {"tables", "lines", "sign", "at", "turn", "change", "odd", "together", "regular"},
+        {"shapes", "angle", "sums", "own", "lies", "rank", "bound"},
+        {"growing", "goes", "ways", "put", "grow"},
+        {"names", "name", "plain", "group", "kinds"},
+        {"sets", "hits", "even", "welch", "multipliers", "find"},
+        {"sheets", "sheet", "lose", "lay", "get", "copy", "load", "write", "count", "digest"}};
+
     public static void main(String[] args) throws Exception {
+        String text = Files.readString(Path.of("src/main/java/EvenLines.java"));
         constants();
         methods();
         fieldsAndConstructors();
-        words();
+        words(text);
+        headings(text);
+        noCallMakesAnObject(text);
         Check.end();
     }
 
@@ -78,13 +89,41 @@ public final class FaceTest {
         Check.due("and takes nothing", constructors[0].getParameterCount(), 0);
     }
 
-    private static void words() throws Exception {
-        String text = Files.readString(Path.of("src/main/java/EvenLines.java"));
-        String code = text.replaceAll("(?s)/\\*.*?\\*/", " ").replaceAll("//[^\n]*", " ");
+    private static String withoutComments(String text) {
+        return text.replaceAll("(?s)/\\*.*?\\*/", " ").replaceAll("//[^\n]*", " ");
+    }
+
+    private static void words(String text) {
+        String code = withoutComments(text);
         for (String word : LEFT_OUT) {
             Matcher found = Pattern.compile(word).matcher(code);
             Check.due("'" + word + "' is in the class", found.find() ? 1 : 0, 0);
         }
         Check.due("a number above 255 among the characters", text.chars().filter(c -> c > 255).count(), 0);
+    }
+
+    /** "Ahead of the calls .. the interface says: ---- ..": the headings and the calls stand in the document's order. */
+    private static void headings(String text) {
+        int at = 0;
+        for (String[] part : HEADINGS) {
+            for (int i = 0; i < part.length; i++) {
+                String wanted = i == 0 ? "    // ---- " + part[0] + "\n" : "\n    public (int|long) " + part[i] + "\\(";
+                Matcher found = Pattern.compile(wanted).matcher(text);
+                if (!found.find(at)) {
+                    Check.fail("'" + part[i] + "' is not where the document has it");
+                    return;
+                }
+                at = found.end();
+            }
+        }
+    }
+
+    /** All calls of a run live in one room: objects are made where fields are, and in the constructor. */
+    private static void noCallMakesAnObject(String text) {
+        for (String line : withoutComments(text).split("\n")) {
+            boolean field = line.matches("\\s+(private )?final \\S+ \\w+ = new [^;]+;");
+            boolean made = line.contains("sheets[s] = new Sheet();");
+            if (line.matches(".*\\b(new|clone|copyOf|copyOfRange)\\b.*") && !field && !made) Check.fail("a call makes an object: " + line.strip());
+        }
     }
 }
