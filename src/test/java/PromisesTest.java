@@ -136,6 +136,7 @@ public final class PromisesTest {
             + "BAD: d; NOT: there are no LINES, lies() is 0, or RANK is above d.", () -> {
             lines(3).then("sign", 1, 2, -1).answers(4, "grow", 3).answers(-1, "at", 1, 3).answers(-1, "at", 2, 3).answers(4, "count", 0);
             lines(1).answers(10, "grow", 20).answers(10, "count", 0);
+            lines(10).answers(10, "grow", 10).answers(10, "count", 0);
             lines(1).range(1, 20, BAD, "grow", HERE);
             NEW.refuses(NOT, "grow", 3);
             CUBE.then("put", 14).refuses(NOT, "grow", 20);
@@ -167,6 +168,7 @@ public final class PromisesTest {
         });
         promises.of("`int kinds(int n)`: KINDS. BAD.", () -> {
             NEW.answers(1, "kinds", 1).answers(1, "kinds", 2).answers(2, "kinds", 3).answers(3, "kinds", 4).answers(7, "kinds", 5);
+            FOUR.answers(7, "kinds", 5).answers(4, "count", 0).answers(2, "count", 2).answers(-1, "at", 1, 3);
             NEW.range(1, 5, BAD, "kinds", HERE);
         });
     }
@@ -258,6 +260,7 @@ public final class PromisesTest {
             six.refuses(BAD, "load", 4, 3);
             six.refuses(NULL, "load", 1, 3);
             six.refuses(INDEX, "load", 0, 4);
+            six.then("sheet", 0, 0, 5).refuses(INDEX, "load", 0, 3);
         });
         promises.of("`int write(int s)`: THE TABLE comes to a SHEET, item N i and j: N N. BAD; NULL; INDEX: it has fewer items.", () -> {
             Run two = six.then("lines", 2).then("turn", 0);
@@ -265,11 +268,12 @@ public final class PromisesTest {
                 .answers(0, "get", 0, 0, 3).answers(0, "get", 0, 0, 4).answers(-128, "get", 0, 0, 5);
             two.refuses(BAD, "write", 4);
             two.refuses(NULL, "write", 1);
+            NEW.refuses(NULL, "write", 1);
             six.then("lines", 3).refuses(INDEX, "write", 0);
         });
         promises.of("`int count(int what)`: 0 LINES, 1 ANGLE, 2 SIGNS that are -1, 3 the number of the latest FINDING (0 before any). BAD.", () -> {
             FOUR.answers(4, "count", 0).answers(3, "count", 1).answers(2, "count", 2).answers(0, "count", 3);
-            FOUR.then("lose", 0).then("sheet", 0, 0, -1).answers(5, "count", 3);
+            FOUR.then("lose", 0).then("sheet", 0, 0, -1).answers(5, "count", 3).then("lines", 2).then("sheet", 0, 0, 1).answers(5, "count", 3);
             FOUR.range(0, 3, BAD, "count", HERE);
         });
         promises.of("`long digest()`: h is 17; h becomes 31 h and each of: count() 0 to 2, THE TABLE row by row, odd(); as longs that wrap.", () -> {
